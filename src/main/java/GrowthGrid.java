@@ -240,10 +240,7 @@ public final class GrowthGrid {
     }
 
     public int corner(int k) {
-        if (k < 0) {
-            return BAD;
-        }
-        return k < cells.cornerCount() ? grownCorners().cornerByOrder(k) : NOT;
+        return k < 0 ? BAD : grownCorners().cornerByOrder(k);
     }
 
     public int unlike(int what) {
@@ -478,10 +475,6 @@ public final class GrowthGrid {
 
         boolean hasCorner(int x, int y) {
             return x >= 0 && x <= columns && y >= 0 && y <= rows;
-        }
-
-        int cornerCount() {
-            return (columns + 1) * (rows + 1);
         }
 
         int numberAt(int x, int y) {

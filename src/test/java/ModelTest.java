@@ -97,6 +97,7 @@ public final class ModelTest {
                 case 1 -> growAndGoBack();
                 case 2, 3, 4 -> putSome(kind);
                 case 5 -> holdAndJudge();
+                case 6 -> undoAndDoAgain();
                 default -> callByChance();
             }
         }
@@ -165,6 +166,21 @@ public final class ModelTest {
         }
         if (calls < CALLS) {
             call("read");
+        }
+    }
+
+    private void undoAndDoAgain() throws Exception {
+        if (calls + 40 > CALLS) {
+            callByChance();
+            return;
+        }
+        for (int n = random.nextInt(10); n > 0; n--) {
+            call("undo");
+            call("count", 6);
+        }
+        for (int n = random.nextInt(10); n > 0; n--) {
+            call("again");
+            call("spelled");
         }
     }
 

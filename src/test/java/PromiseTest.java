@@ -43,6 +43,7 @@ public final class PromiseTest {
         orderOfCorners();
         unlikeShapes();
         undoneAndAgain();
+        manyDeeds();
         everyDeed();
         nothingElseIsADeed();
         fedTape();
@@ -727,6 +728,38 @@ public final class PromiseTest {
         due(22, g.cell(1, 1), 1);
         due(22, g.undo(), 6);
         due(22, g.cell(1, 1), 0);
+    }
+
+    /** Each state is unlike all others, so that one kept in the place of another is seen. */
+    private static void manyDeeds() {
+        for (int deeds = 7; deeds <= 30; deeds++) {
+            GrowthGrid g = new GrowthGrid();
+            g.grid(5, 5);
+            for (int k = 1; k < deeds; k++) {
+                g.word(wordOf(k));
+            }
+            for (int round = 0; round < 2; round++) {
+                int kept = Math.min(8, deeds);
+                for (int k = 1; k <= kept; k++) {
+                    due(22, g.undo(), kept - k);
+                    due(22, g.spelled(), spelledBehind(deeds - k));
+                }
+                due(22, g.undo(), STATE);
+                for (int k = 1; k <= kept; k++) {
+                    due(23, g.again(), kept - k);
+                    due(23, g.spelled(), spelledBehind(deeds - kept + k));
+                }
+                due(23, g.again(), STATE);
+            }
+        }
+    }
+
+    private static int spelledBehind(int deeds) {
+        return wordOf(Math.max(0, deeds - 1));
+    }
+
+    private static int wordOf(int k) {
+        return 10 * (k / 6) + k % 6;
     }
 
     private static void everyDeed() {
