@@ -18,6 +18,7 @@ public final class GrowthGrid {
     private static final int MOST_PARTS = MOST_SIDE * MOST_SIDE * MOST_NUMBER;
     // 20 factorial is the last one that a long holds.
     private static final int MOST_STANDARD = 20;
+    private static final int MOST_PRODUCT = 2147483647;
     private static final int MOST_DEEDS = 8;
     private static final int MOST_BYTES = 60, MOST_FED = 4;
     private static final int HOLDERS = 6, MOST_ROW = 30;
@@ -741,7 +742,7 @@ public final class GrowthGrid {
             long all = 1;
             for (int i = 0; i < length; i++) {
                 all *= parts[i] + 1;
-                if (all > Integer.MAX_VALUE) {
+                if (all > MOST_PRODUCT) {
                     return WIDE;
                 }
             }
