@@ -12,6 +12,7 @@ public final class DeedSentencesTest extends Sentences {
         asAheadOfIt();
         latestFirst();
         undoneAndDoneMore();
+        upToTheLastCall();
         nothingToUndo();
         otherCallsAreNoDeeds();
         imagesAndDeeds();
@@ -291,6 +292,18 @@ public final class DeedSentencesTest extends Sentences {
         due(g.undo(), 3);
         due(g.cell(1, 1), 0);
         due(g.count(4), 5);
+    }
+
+    private static void upToTheLastCall() {
+        says("An object is used for at most 512 calls after it has been made");
+        GrowthGrid g = new GrowthGrid();
+        for (int call = 1; call <= 503; call++) {
+            due(g.put(2, 2, call % 3), (call - 1) % 3);
+        }
+        for (int k = 7; k >= 0; k--) {
+            due(g.undo(), k);
+        }
+        due(g.cell(2, 2), 495 % 3);
     }
 
     private static void nothingToUndo() {

@@ -292,6 +292,9 @@ public final class RowSentencesTest extends Sentences {
 
     private static void unlikeShapes() {
         says("How many unlike SHAPES CORNERS have (what 0); how many CORNERS have that which most have (1). BAD.");
+        // Either can be asked first.
+        due(new GrowthGrid().unlike(1), 16);
+        due(of("22;11;11").unlike(1), 5);
         GrowthGrid g = new GrowthGrid();
         due(g.unlike(0), 1);
         due(g.unlike(1), 16);

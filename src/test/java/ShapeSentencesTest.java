@@ -422,6 +422,15 @@ public final class ShapeSentencesTest extends Sentences {
         due(g.along(0b0000011111, 5), 0);
         due(g.along(0b0101010101, 8), 12);
         due(g.along(0b0101010101, 11), BAD);
+
+        says("SIZE of the SHAPE of CORNER k of a PATH. BAD: path, k.");
+        // CORNERS 05, 15, .., 55, 54, .., 50.
+        for (int k = 0; k <= 10; k++) {
+            due(g.along(0b1111100000, k), k <= 5 ? 15 * k : 15 * (10 - k));
+        }
+        g.rule(1);
+        due(g.along(0b1111100000, 5), 25);
+        due(g.along(-1, -1), BAD);
     }
 
     private static void noPaths() {
