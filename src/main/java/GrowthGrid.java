@@ -326,7 +326,7 @@ public final class GrowthGrid {
         }
         Holder held = holders[h];
         if (!held.hasShape()) {
-            return held.whyNoShape();
+            return held.refusal();
         }
         if (kind == 0) {
             return held.shape.size;
@@ -343,7 +343,7 @@ public final class GrowthGrid {
             return BAD;
         }
         Holder held = holders[h];
-        return held.hasShape() ? held.shape.partAt(i) : held.whyNoShape();
+        return held.hasShape() ? held.shape.partAt(i) : held.refusal();
     }
 
     public int row(int h, int n) {
@@ -363,7 +363,7 @@ public final class GrowthGrid {
         }
         Holder held = holders[h];
         if (!held.hasRow()) {
-            return held.whyNoRow();
+            return held.refusal();
         }
         if (!held.hasPlace(i)) {
             return NO_PLACE;
@@ -384,7 +384,7 @@ public final class GrowthGrid {
             return BAD;
         }
         Holder held = holders[h];
-        return held.hasRow() ? held.firstOtherwise(shapeAt(x, y)) : held.whyNoRow();
+        return held.hasRow() ? held.firstOtherwise(shapeAt(x, y)) : held.refusal();
     }
 
     public int image() {
@@ -1074,11 +1074,8 @@ public final class GrowthGrid {
             return i >= 0 && i < rowLength;
         }
 
-        int whyNoShape() {
-            return holds == HOLDS_NOTHING ? NOTHING_THERE : OTHER_KIND;
-        }
-
-        int whyNoRow() {
+        /** What is answered where something else is wanted than what is held. */
+        int refusal() {
             return holds == HOLDS_NOTHING ? NOTHING_THERE : OTHER_KIND;
         }
 
